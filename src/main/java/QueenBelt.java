@@ -8,12 +8,12 @@ public final class QueenBelt {
     private final Loom told = new Loom();
     private final Loom draft = new Loom();
     private final LoomText loomText = new LoomText(words, draft);
-    private final Belt woven = new Belt();
-    private final Acts acts = new Acts(woven);
+    private final Belt cloth = new Belt();
+    private final Acts acts = new Acts(cloth);
     private final Strip inFront = new Strip();
     private final Strip inBack = new Strip();
-    private final Ways ways = new Ways(woven, inFront, inBack);
-    private final Question question = new Question(words, woven);
+    private final Ways ways = new Ways(cloth, inFront, inBack);
+    private final Question question = new Question(words, cloth);
     private final Image written = new Image();
     private int stoppedAt = NONE;
 
@@ -47,7 +47,7 @@ public final class QueenBelt {
             return NONE;
         }
         told.take(draft);
-        stoppedAt = woven.begin(told);
+        stoppedAt = cloth.begin(told);
         acts.count = 0;
         inFront.rows = 0;
         inBack.rows = 0;
@@ -69,11 +69,11 @@ public final class QueenBelt {
             case 2: return told.packs;
             case 3: return told.limit;
             case 4: return told.letters;
-            case 5: return woven.rows;
+            case 5: return cloth.rows;
             case 6: return stoppedAt;
-            case 7: return woven.left();
-            case 8: return woven.rhyme();
-            case 9: return woven.joins();
+            case 7: return cloth.left();
+            case 8: return cloth.rhyme();
+            case 9: return cloth.joins();
             case 10: return acts.count;
             case 11: return inFront.rows;
             case 12: return inBack.rows;
@@ -90,24 +90,24 @@ public final class QueenBelt {
     }
 
     public int card(int card, int what) {
-        if (!woven.hasCard(card)) {
+        if (!cloth.hasCard(card)) {
             return NONE;
         }
         switch (what) {
             case 0:
             case 1:
             case 2:
-            case 3: return woven.thread(card, what);
-            case 4: return woven.side(card);
-            case 5: return woven.twistBehind(woven.rows - 1, card) & 3;
-            case 6: return woven.twistBehind(woven.rows - 1, card) + 100;
-            case 7: return woven.backs(card);
+            case 3: return cloth.thread(card, what);
+            case 4: return cloth.side(card);
+            case 5: return cloth.twistBehind(cloth.rows - 1, card) & 3;
+            case 6: return cloth.twistBehind(cloth.rows - 1, card) + 100;
+            case 7: return cloth.backs(card);
             default: return NONE;
         }
     }
 
     public int pack(int pack, int card) {
-        if (pack < 0 || pack >= told.packs || !woven.hasCard(card)) {
+        if (pack < 0 || pack >= told.packs || !cloth.hasCard(card)) {
             return NONE;
         }
         return told.isOfPack(pack, card) ? 1 : 0;
@@ -116,15 +116,15 @@ public final class QueenBelt {
     // ---- the belt
 
     public int belt(int row, int card, int what) {
-        if (!woven.hasRow(row) || !woven.hasCard(card)) {
+        if (!cloth.hasRow(row) || !cloth.hasCard(card)) {
             return NONE;
         }
         switch (what) {
-            case 0: return woven.front(row, card);
-            case 1: return woven.behind(row, card);
-            case 2: return woven.slant(row, card);
-            case 3: return woven.turnOf(row, card);
-            case 4: return woven.twistBehind(row, card) + 100;
+            case 0: return cloth.front(row, card);
+            case 1: return cloth.behind(row, card);
+            case 2: return cloth.slant(row, card);
+            case 3: return cloth.turnOf(row, card);
+            case 4: return cloth.twistBehind(row, card) + 100;
             default: return NONE;
         }
     }
@@ -133,7 +133,7 @@ public final class QueenBelt {
         if (colour < 0 || colour >= told.colours) {
             return NONE;
         }
-        return woven.cells(colour, behind);
+        return cloth.cells(colour, behind);
     }
 
     // ---- acts
@@ -143,36 +143,36 @@ public final class QueenBelt {
                 || (how == Loom.STILL && pack == NONE) || told.cards == 0) {
             return NONE;
         }
-        if (!woven.weave(told.turning(how, pack))) {
+        if (!cloth.weave(told.turning(how, pack))) {
             return NONE;
         }
         acts.keep(Acts.TURNED, 0);
-        return woven.rows;
+        return cloth.rows;
     }
 
     public boolean unweave() {
-        if (woven.rows == 0) {
+        if (cloth.rows == 0) {
             return false;
         }
-        acts.keep(Acts.UNWOVEN, woven.turningOf(woven.rows - 1));
-        woven.rows--;
+        acts.keep(Acts.UNWOVEN, cloth.turningOf(cloth.rows - 1));
+        cloth.rows--;
         return true;
     }
 
     public boolean shift(int card) {
-        if (!woven.hasCard(card)) {
+        if (!cloth.hasCard(card)) {
             return false;
         }
-        woven.threadsOn(card, 1);
+        cloth.threadsOn(card, 1);
         acts.keep(Acts.SHIFTED, card);
         return true;
     }
 
     public boolean string(int card) {
-        if (!woven.hasCard(card)) {
+        if (!cloth.hasCard(card)) {
             return false;
         }
-        woven.otherSide(card);
+        cloth.otherSide(card);
         acts.keep(Acts.STRUNG, card);
         return true;
     }
@@ -191,7 +191,7 @@ public final class QueenBelt {
     }
 
     public int woven(int card, int corner, int what) {
-        if (!woven.hasCard(card) || corner < NONE || corner > 3 || inFront.rows == 0) {
+        if (!cloth.hasCard(card) || corner < NONE || corner > 3 || inFront.rows == 0) {
             return NONE;
         }
         switch (what) {
@@ -218,7 +218,7 @@ public final class QueenBelt {
     }
 
     public int both(int card, int corner) {
-        if (!woven.hasCard(card) || corner < NONE || corner > 3
+        if (!cloth.hasCard(card) || corner < NONE || corner > 3
                 || inFront.rows == 0 || inFront.rows != inBack.rows) {
             return NONE;
         }
@@ -226,14 +226,14 @@ public final class QueenBelt {
     }
 
     public int nearest(int card) {
-        if (inFront.rows == 0 || (card != NONE && !woven.hasCard(card))) {
+        if (inFront.rows == 0 || (card != NONE && !cloth.hasCard(card))) {
             return NONE;
         }
         if (card != NONE) {
             return ways.mostRight(card);
         }
         int all = 0;
-        for (int i = 0; i < woven.cards; i++) {
+        for (int i = 0; i < cloth.cards; i++) {
             all += ways.mostRight(i);
         }
         return all;
@@ -242,16 +242,16 @@ public final class QueenBelt {
     // ---- wrong turns, mending
 
     public int wrong(int k) {
-        if (k < NONE || inFront.rows == 0 || woven.rows < inFront.rows) {
+        if (k < NONE || inFront.rows == 0 || cloth.rows < inFront.rows) {
             return NONE;
         }
         int found = 0;
-        for (int card = 0; card < woven.cards; card++) {
-            if (!inFront.othersFit(woven, card)) {
+        for (int card = 0; card < cloth.cards; card++) {
+            if (!inFront.othersFit(cloth, card)) {
                 continue;
             }
             for (int row = 0; row < inFront.rows; row++) {
-                if (!inFront.fitsOtherwise(woven, card, row)) {
+                if (!inFront.fitsOtherwise(cloth, card, row)) {
                     continue;
                 }
                 if (found == k) {
@@ -264,11 +264,11 @@ public final class QueenBelt {
     }
 
     public int mend() {
-        return inFront.rows == 0 ? NONE : woven.rows - inFront.rowsAlike(woven);
+        return inFront.rows == 0 ? NONE : cloth.rows - inFront.rowsAlike(cloth);
     }
 
     public int sure(int card, int row) {
-        if (!woven.hasCard(card) || row < 0 || row >= inFront.rows
+        if (!cloth.hasCard(card) || row < 0 || row >= inFront.rows
                 || ways.barredRow(card) != NONE) {
             return NONE;
         }
@@ -287,7 +287,7 @@ public final class QueenBelt {
     // ---- images
 
     public int image() {
-        written.write(woven);
+        written.write(cloth);
         return written.length;
     }
 
@@ -296,9 +296,9 @@ public final class QueenBelt {
     }
 
     public boolean on() {
-        boolean good = Image.isOne(tape, woven, told.colours);
+        boolean good = Image.isOne(tape, cloth, told.colours);
         if (good) {
-            Image.bring(tape, woven);
+            Image.bring(tape, cloth);
             acts.count = 0;
         }
         tape.length = 0;
@@ -349,7 +349,7 @@ public final class QueenBelt {
         }
 
         int byteAt(int i) {
-            return i >= 0 && i < length ? Cells.at(bytes, i) : NONE;
+            return i >= 0 && i < length && i < bytes.length ? bytes[i] : NONE;
         }
     }
 
@@ -363,13 +363,16 @@ public final class QueenBelt {
         private static final int MARK = 3;
         // A word right behind a number, or a number right behind a word: it never fits.
         private static final int TORN = 4;
+        private static final String OWN_WORDS =
+                "colour card strung s z pack twist weave on back still twice ";
 
         private final Tape tape;
         private int kind;
         private int size;
         private int next;
-        // Where the present one begins; a name is 5 bits for a letter, the first letter lowest.
+        // Where the present one begins.
         int start;
+        // Of a word 5 bits for each of its first letters, the first one lowest.
         int value;
         int fault;
         int place = NONE;
@@ -393,51 +396,39 @@ public final class QueenBelt {
                 next++;
             }
             start = next;
+            size = 0;
             value = 0;
-            if (next >= tape.length) {
-                kind = ENDED;
-            } else if (isLetter(tape.byteAt(next))) {
-                takeWord();
-            } else if (isDigit(tape.byteAt(next))) {
-                takeNumber();
-            } else {
-                kind = MARK;
-                value = tape.byteAt(next);
+            kind = kindOf(tape.byteAt(next));
+            boolean more = kind != ENDED;
+            while (more && next < tape.length) {
+                take(tape.byteAt(next));
                 next++;
+                more = kind != MARK && kindOf(tape.byteAt(next)) == kind;
             }
-            size = next - start;
             if (mayTear && start == before && (kind == WORD || kind == NUMBER)) {
                 kind = TORN;
             }
         }
 
-        private void takeWord() {
-            kind = WORD;
-            while (next < tape.length && isLetter(tape.byteAt(next))) {
-                int k = next - start;
-                if (k < LONGEST_NAME) {
-                    value |= (tape.byteAt(next) - 'a' + 1) << (5 * k);
-                }
-                next++;
+        private static int kindOf(int octet) {
+            if (octet >= 'a' && octet <= 'z') {
+                return WORD;
             }
-        }
-
-        private void takeNumber() {
-            kind = NUMBER;
-            while (next < tape.length && isDigit(tape.byteAt(next))) {
-                if (next - start < LONGEST_NUMBER) {
-                    value = 10 * value + tape.byteAt(next) - '0';
-                }
-                next++;
+            if (octet >= '0' && octet <= '9') {
+                return NUMBER;
             }
+            return octet == NONE ? ENDED : MARK;
         }
 
-        private static boolean isLetter(int octet) {
-            return octet >= 'a' && octet <= 'z';
-        }
-
-        private static boolean isDigit(int octet) {
-            return octet >= '0' && octet <= '9';
+        private void take(int octet) {
+            if (kind == WORD && size < LONGEST_NAME) {
+                value |= (octet - 'a' + 1) << (5 * size);
+            } else if (kind == NUMBER && size < LONGEST_NUMBER) {
+                value = 10 * value + octet - '0';
+            } else if (kind == MARK) {
+                value = octet;
+            }
+            size++;
         }
 
         /** Always false, so that a reader can hand it on. */
@@ -450,7 +441,11 @@ public final class QueenBelt {
         }
 
         boolean failHere(int newFault) {
-            return fail(newFault, start);
+            if (fault == 0) {
+                fault = newFault;
+                place = start;
+            }
+            return false;
         }
 
         boolean ended() {
@@ -466,7 +461,7 @@ public final class QueenBelt {
                 return false;
             }
             for (int i = 0; i < word.length(); i++) {
-                if (tape.byteAt(start + i) != word.charAt(i)) {
+                if ((value >> (5 * i) & 31) != word.charAt(i) - 'a' + 1) {
                     return false;
                 }
             }
@@ -474,9 +469,20 @@ public final class QueenBelt {
         }
 
         private boolean isOwnWord() {
-            return isWord("colour") || isWord("card") || isWord("strung") || isWord("s")
-                    || isWord("z") || isWord("pack") || isWord("twist") || isWord("weave")
-                    || isWord("on") || isWord("back") || isWord("still") || isWord("twice");
+            int word = 0;
+            int letters = 0;
+            for (int i = 0; i < OWN_WORDS.length(); i++) {
+                if (OWN_WORDS.charAt(i) != ' ') {
+                    word |= (OWN_WORDS.charAt(i) - 'a' + 1) << (5 * letters);
+                    letters++;
+                } else if (letters == size && word == value) {
+                    return true;
+                } else {
+                    word = 0;
+                    letters = 0;
+                }
+            }
+            return false;
         }
 
         /** A word that is meant as a name, be it too long. */
@@ -489,7 +495,7 @@ public final class QueenBelt {
         }
 
         boolean mustBeName() {
-            if (!meansName()) {
+            if (kind != WORD || isOwnWord()) {
                 return failHere(1);
             }
             return size <= LONGEST_NAME || fail(1, start + LONGEST_NAME);
@@ -510,7 +516,7 @@ public final class QueenBelt {
             return true;
         }
 
-        boolean takeOwn(String word) {
+        boolean takeWord(String word) {
             if (!isWord(word)) {
                 return failHere(1);
             }
@@ -664,33 +670,20 @@ public final class QueenBelt {
             draft.empty();
             words.begin();
             for (int i = 0; i <= MOST_STATEMENTS && !words.ended(); i++) {
-                if (!readStatement()) {
+                if (draft.statements >= MOST_STATEMENTS) {
+                    return words.failHere(5);
+                }
+                boolean good = words.isWord("colour") ? readColour()
+                        : words.isWord("card") ? readCard()
+                        : words.isWord("pack") ? readPack()
+                        : words.isWord("twist") ? readTwist()
+                        : words.isWord("weave") ? readWeave() : words.failHere(1);
+                if (!good || !words.takeMark(';')) {
                     return false;
                 }
+                draft.statements++;
             }
             return true;
-        }
-
-        private boolean readStatement() {
-            if (draft.statements >= MOST_STATEMENTS) {
-                return words.failHere(5);
-            }
-            boolean good;
-            if (words.isWord("colour")) {
-                good = readColour();
-            } else if (words.isWord("card")) {
-                good = readCard();
-            } else if (words.isWord("pack")) {
-                good = readPack();
-            } else if (words.isWord("twist")) {
-                good = readTwist();
-            } else if (words.isWord("weave")) {
-                good = readWeave();
-            } else {
-                good = words.failHere(1);
-            }
-            draft.statements++;
-            return good && words.takeMark(';');
         }
 
         /** A name that is not there yet, or NONE with a fault. */
@@ -742,7 +735,7 @@ public final class QueenBelt {
             words.step();
             int card = draft.cards;
             int name = newName();
-            if (name == NONE || !words.takeOwn("strung")) {
+            if (name == NONE || !words.takeWord("strung")) {
                 return false;
             }
             if (!words.isWord("s") && !words.isWord("z")) {
@@ -1138,16 +1131,12 @@ public final class QueenBelt {
             return true;
         }
 
-        private int cell(int row, int card) {
-            return Cells.at(told, row * Loom.MOST_CARDS + card);
-        }
-
         boolean known(int row, int card) {
-            return cell(row, card) != 0;
+            return Cells.at(told, row * Loom.MOST_CARDS + card) != 0;
         }
 
         boolean fits(int row, int card, int colour) {
-            int cell = cell(row, card);
+            int cell = Cells.at(told, row * Loom.MOST_CARDS + card);
             return cell == 0 || cell - 1 == colour;
         }
 
@@ -1258,10 +1247,6 @@ public final class QueenBelt {
             return any;
         }
 
-        private boolean allCount(int card, int corner, boolean both) {
-            return count(card, corner, both) == front.rows;
-        }
-
         private static boolean isMeant(int corner, int one) {
             return corner == NONE || corner == one;
         }
@@ -1269,7 +1254,7 @@ public final class QueenBelt {
         int number(int card, int corner, boolean both) {
             int all = 0;
             for (int one = 0; one < 4; one++) {
-                if (isMeant(corner, one) && allCount(card, one, both)) {
+                if (isMeant(corner, one) && count(card, one, both) == front.rows) {
                     for (int twist = -front.rows; twist <= front.rows; twist++) {
                         all += Cells.at(now, MIDDLE + twist);
                     }
@@ -1281,7 +1266,7 @@ public final class QueenBelt {
         int fewestBacks(int card, int corner) {
             int fewest = NONE;
             for (int one = 0; one < 4; one++) {
-                if (!isMeant(corner, one) || !allCount(card, one, false)) {
+                if (!isMeant(corner, one) || count(card, one, false) < front.rows) {
                     continue;
                 }
                 for (int backs = 0; backs <= front.rows; backs++) {
@@ -1295,7 +1280,7 @@ public final class QueenBelt {
 
         boolean leaveNoTwist(int card, int corner) {
             for (int one = 0; one < 4; one++) {
-                if (isMeant(corner, one) && allCount(card, one, false)
+                if (isMeant(corner, one) && count(card, one, false) == front.rows
                         && Cells.at(now, MIDDLE) > 0) {
                     return true;
                 }
