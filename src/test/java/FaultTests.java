@@ -106,6 +106,21 @@ public final class FaultTests {
         weaveAt(1, "on ^,on;");
     }
 
+    private static void ownWords() {
+        String[] own = {"colour", "card", "strung", "s", "z", "pack", "twist", "weave", "on", "back",
+            "still", "twice"};
+        for (String word : own) {
+            at(1, "colour ^" + word + ";");
+            at(1, "colour a;card ^" + word + " strung s a a a a;");
+            at(1, "colour a;card k strung z a a ^" + word + " a;");
+            at(1, BASE + "pack ^" + word + " k;");
+            at(1, BASE + "pack q ^" + word + ";");
+            at(1, BASE + "pack q k ^" + word + ";");
+            weaveAt(1, "still ^" + word + ";");
+        }
+        fine("colour all;colour first;colour row;colour olour;colour x;colour ss;", 6);
+    }
+
     private static void badNumbersAndNames() {
         at(2, "twist ^0;");
         at(2, "twist ^0000;");
@@ -261,6 +276,7 @@ public final class FaultTests {
 
     public static void main(String[] args) {
         badBytes();
+        ownWords();
         badNumbersAndNames();
         tooManyOpen();
         tooMany();

@@ -267,6 +267,31 @@ public final class PromiseTests {
         due("unweave without rows", x.unweave(), false);
     }
 
+    /** Of 30 unlike acts the last 20 are undone, the latest first. */
+    private static void manyActs() {
+        QueenBelt x = loom();
+        int[][] images = new int[31][];
+        for (int i = 0; i < 30; i++) {
+            images[i] = Checks.image(x);
+            switch (i * i % 7) {
+                case 0: x.shift(i & 1); break;
+                case 1: x.turn(i % 3, 0); break;
+                case 2: x.string(i & 1); break;
+                default: x.unweave(); x.turn(1, NONE); i++; images[i] = null; break;
+            }
+        }
+        due("20 can be undone", x.loom(10), 20);
+        for (int i = 29; i >= 10; i--) {
+            due("undo " + i, x.undo(), true);
+            int[] want = images[i];
+            int[] got = Checks.image(x);
+            for (int k = 0; want != null && k < want.length; k++) {
+                due("octet " + k + " ahead of act " + i, k < got.length ? got[k] : NONE, want[k]);
+            }
+        }
+        due("the first 10 stay", x.undo(), false);
+    }
+
     private static void strip() {
         QueenBelt x = loom();
         due("no bytes", Checks.strip(x, false), NONE);
@@ -520,6 +545,7 @@ public final class PromiseTests {
         belt();
         turn();
         actsAndUndo();
+        manyActs();
         strip();
         woven();
         barredApartNearestSure();
