@@ -133,6 +133,10 @@ public final class FaultTests {
         at(3, BASE + "pack ^p k;");
         at(3, BASE + "colour ^p;");
         at(3, BASE + "pack ^k k;");
+        at(3, BASE + "pack ^k l;");
+        at(3, BASE + "pack ^k;");
+        at(3, BASE + "card ^k strung s r r r r;");
+        at(1, BASE + "card ^strung s r r r r;");
         at(3, BASE + "pack q ^r;");
         at(3, BASE + "pack q ^q;");
         at(3, BASE + "pack q k ^p;");
