@@ -528,6 +528,7 @@ public final class QueenBelt {
     /** What a loom's text tells. */
     private static final class Loom {
         static final int ON = 0;
+        static final int BACK = 1;
         static final int STILL = 2;
         static final int MOST_COLOURS = 6;
         static final int MOST_CARDS = 8;
@@ -860,7 +861,7 @@ public final class QueenBelt {
                     return false;
                 }
             }
-            draft.addLetter(still ? Loom.STILL : on ? Loom.ON : 1, pack);
+            draft.addLetter(still ? Loom.STILL : on ? Loom.ON : Loom.BACK, pack);
             return true;
         }
     }
