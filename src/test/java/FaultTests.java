@@ -106,6 +106,64 @@ public final class FaultTests {
         weaveAt(1, "on ^,on;");
     }
 
+    /** A statement that ends too soon, by its ; or by the text's end. */
+    private static void endsTooSoon() {
+        String[] parts = {"colour", " a", ";", "card", " k", " strung", " s", " a", " a", " a", " a", ";",
+            "pack", " p", " k", ";", "twist", " 5", ";", "weave", " twice", " [", " on", " p", " ]", " still",
+            " p", ";"};
+        StringBuilder ahead = new StringBuilder();
+        for (int i = 0; i < parts.length; i++) {
+            boolean mayEnd = i == 0 || parts[i - 1].equals(";");
+            boolean mayClose = parts[i].equals(";") || parts[i].equals(" still");
+            if (mayEnd) {
+                fine(ahead.toString(), Checks.count(ahead, ';'));
+            } else {
+                at(1, ahead + "^");
+                at(1, ahead + " \n ^");
+            }
+            if (!mayClose) {
+                at(1, ahead + "^;");
+            }
+            at(1, ahead + "^!");
+            at(1, ahead + "^\u00ff;");
+            ahead.append(parts[i]);
+        }
+        fine(ahead.toString(), 5);
+    }
+
+    private static void blanks() {
+        String[] parts = {"colour", " ", "a", "", ";", "", "card", " ", "k", " ", "strung", " ", "s", " ", "a",
+            " ", "a", " ", "a", " ", "a", "", ";", "", "pack", " ", "p", " ", "k", "", ";", "", "twist", " ", "5",
+            "", ";", "", "weave", "", "[", "", "on", "", "[", "", "back", " ", "p", "", "]", "", "]", "", "[", "",
+            "still", " ", "p", "", "]", "", ";", ""};
+        String[] blanks = {" ", "\n", "  ", " \n \n", Checks.many(" ", 20)};
+        StringBuilder least = new StringBuilder();
+        for (String part : parts) {
+            least.append(part);
+        }
+        fine(least.toString(), 5);
+        for (String blank : blanks) {
+            StringBuilder wide = new StringBuilder(blank);
+            for (int i = 0; i < parts.length; i++) {
+                wide.append(i % 2 == 1 ? blank : parts[i]);
+            }
+            fine(wide.toString(), 5);
+        }
+        char[] none = {0, 7, 9, 11, 12, 13, 31, 33, 127, 128, 160, 255};
+        for (char sign : none) {
+            at(1, "colour^" + sign + "a;");
+            at(1, "colour a;^" + sign);
+            at(1, "^" + sign + "colour a;");
+        }
+        at(1, "colour^5;");
+        at(1, "card k ^strungs a a a a;");
+        at(1, "^coloura;");
+        at(1, "colour a^1;");
+        at(1, BASE + "weave ^onp;");
+        at(1, BASE + "weave ^twiceon;");
+        at(3, BASE + "pack q ^kl;");
+    }
+
     private static void ownWords() {
         String[] own = {"colour", "card", "strung", "s", "z", "pack", "twist", "weave", "on", "back",
             "still", "twice"};
@@ -280,6 +338,8 @@ public final class FaultTests {
 
     public static void main(String[] args) {
         badBytes();
+        endsTooSoon();
+        blanks();
         ownWords();
         badNumbersAndNames();
         tooManyOpen();
