@@ -542,7 +542,6 @@ public final class QueenBelt {
         int packs;
         int limit = MOST_TWIST;
         int letters;
-        boolean weaves;
         final int[] colourNames = new int[MOST_COLOURS];
         final int[] cardNames = new int[MOST_CARDS];
         final int[] packNames = new int[MOST_PACKS];
@@ -560,7 +559,6 @@ public final class QueenBelt {
             packs = 0;
             limit = MOST_TWIST;
             letters = 0;
-            weaves = false;
             Cells.clear(packCards);
         }
 
@@ -571,7 +569,6 @@ public final class QueenBelt {
             packs = other.packs;
             limit = other.limit;
             letters = other.letters;
-            weaves = other.weaves;
             Cells.copy(other.colourNames, colourNames);
             Cells.copy(other.cardNames, cardNames);
             Cells.copy(other.packNames, packNames);
@@ -661,6 +658,7 @@ public final class QueenBelt {
 
         private final Words words;
         private final Loom draft;
+        private boolean weaves;
 
         LoomText(Words words, Loom draft) {
             this.words = words;
@@ -669,6 +667,7 @@ public final class QueenBelt {
 
         boolean read() {
             draft.empty();
+            weaves = false;
             words.begin();
             for (int i = 0; i <= MOST_STATEMENTS && !words.ended(); i++) {
                 if (draft.statements >= MOST_STATEMENTS) {
@@ -803,10 +802,10 @@ public final class QueenBelt {
         }
 
         private boolean readWeave() {
-            if (draft.weaves) {
+            if (weaves) {
                 return words.failHere(5);
             }
-            draft.weaves = true;
+            weaves = true;
             words.step();
             for (int i = 0; i < Tape.MOST && (i == 0 || beginsTurn()); i++) {
                 int place = words.start;

@@ -70,11 +70,35 @@ public final class LanguageTests {
         CHECKS.due("all of them are static", all, many);
     }
 
+    /** Fields stand at a class's first level of indentation, end with ; and are called by no (. */
+    private static void fields(String code) {
+        String[] parts = code.split("(?m)^ {4}private static final class ");
+        Pattern field = Pattern.compile("(?m)^( {4}| {8})(?!return|break|continue)"
+                + "((?:private |public |static |final )*)[\\w\\[\\]]+ \\w+( =[^;]*)?;");
+        int all = 0;
+        for (int i = 0; i < parts.length; i++) {
+            Matcher found = field.matcher(parts[i]);
+            int many = 0;
+            while (found.find()) {
+                boolean constant = found.group(2).contains("static ");
+                boolean inside = found.group(1).length() == (i == 0 ? 4 : 8);
+                many += inside && !constant ? 1 : 0;
+                CHECKS.due("a static field that is not final in part " + i,
+                        constant && !found.group(2).contains("final "), false);
+            }
+            CHECKS.due("fields of part " + i, many <= 20, true);
+            all += many;
+        }
+        CHECKS.due("fields were found", all > 40, true);
+        CHECKS.due("texts joined by +", Pattern.compile("\" \\+|\\+ \"").matcher(code).find(), false);
+    }
+
     public static void main(String[] args) throws IOException {
         String code = withoutComments(Files.readString(Path.of("src/main/java/QueenBelt.java")));
         words(code);
         methods(code);
         classes(code);
+        fields(code);
         CHECKS.end();
     }
 }
